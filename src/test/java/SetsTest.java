@@ -188,6 +188,25 @@ public final class SetsTest {
         x.join(3, 2, 1, 0);
         due.is("taken out and put in again", x.alike(3, 0, 0), 1);
         due.is("its PERIOD", x.told(3, 1), 12);
+        joinThatComesRoundSooner();
+    }
+
+    /** What is made comes round sooner, or from earlier on, than what it is made of: it is not LARGE. */
+    private static void joinThatComesRoundSooner() {
+        NumberMachines x = new NumberMachines();
+        int even = x.put(0, 2, 0, 60);
+        x.put(1, 2, 1, 58);
+        due.is("even ones less odd ones", x.join(2, 0, 1, 2), even);
+        due.is("PERIOD 60", x.told(2, 1), 60);
+        due.is("alike", x.alike(2, 0, 0), 1);
+        due.is("even ones that are odd", x.join(2, 0, 1, 1), 1);
+        int fromHundred = x.put(0, 1, 100, 0);
+        x.shift(1, 0, 1);
+        x.put(2, 0, 100, 0);
+        due.is("100, and no less than 101", x.join(3, 1, 2, 0), fromHundred);
+        due.is("START 100", x.told(3, 0), 100);
+        due.is("alike", x.alike(3, 0, 0), 1);
+        due.is("unlike SETS: from 100, from 101, 100, none", x.count(1), 4);
     }
 
     private static void promise4JoinRefused() {

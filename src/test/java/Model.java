@@ -1,0 +1,393 @@
+import java.math.BigInteger;
+import java.util.ArrayList;
+import java.util.HashMap;
+import java.util.HashSet;
+import java.util.List;
+import java.util.Map;
+import java.util.Set;
+import java.util.function.IntPredicate;
+
+/** The document's words done as they stand, slowly: what NumberMachines is compared with. */
+final class Model {
+    private static final int UNKNOWN = -1, OUTSIDE = -2, AMISS = -3, FULL = -4, NONE = -6;
+
+    /** A SET: its NUMBERS below START and PERIOD, added, and its machine as rows of where each STATE goes. */
+    private static final class Known {
+        int start;
+        int period;
+        boolean[] in;
+        List<int[]> goes;
+        List<Boolean> good;
+
+        boolean holds(long n) {
+            return in[(int) (n < in.length ? n : start + (n - start) % period)];
+        }
+
+        boolean holds(BigInteger n) {
+            BigInteger from = BigInteger.valueOf(start);
+            if (n.compareTo(BigInteger.valueOf(in.length)) < 0) {
+                return in[n.intValue()];
+            }
+            return in[start + n.subtract(from).mod(BigInteger.valueOf(period)).intValue()];
+        }
+    }
+
+    private int base = 2;
+    private Known[] slots = new Known[6];
+    private final Known[][] kept = new Known[2][];
+    private final int[] keptBase = new int[2];
+
+    Model() {
+        empty();
+    }
+
+    private void empty() {
+        for (int slot = 0; slot < 6; slot++) {
+            hold(slot, n -> false, 0, 1);
+        }
+    }
+
+    private static boolean slot(int slot) {
+        return slot >= 0 && slot < 6;
+    }
+
+    private static boolean within(int n, int least, int most) {
+        return n >= least && n <= most;
+    }
+
+    /** A SET told by which NUMBERS are in it, a place from which on and a number by which it comes round. */
+    private int hold(int to, IntPredicate so, int from, int by) {
+        boolean[] in = new boolean[from + 2 * by + 1];
+        for (int n = 0; n < in.length; n++) {
+            in[n] = so.test(n);
+        }
+        int period = 1;
+        while (!comesRound(in, from, period, by)) {
+            period++;
+        }
+        int start = from;
+        while (start > 0 && in[start - 1] == in[start - 1 + period]) {
+            start--;
+        }
+        if (period > 60 || start > 120) {
+            return FULL;
+        }
+        Known made = new Known();
+        made.start = start;
+        made.period = period;
+        made.in = java.util.Arrays.copyOf(in, start + period);
+        if (!trace(made)) {
+            return FULL;
+        }
+        slots[to] = made;
+        return made.goes.size();
+    }
+
+    private static boolean comesRound(boolean[] in, int from, int period, int by) {
+        for (int n = from; n < from + by; n++) {
+            if (in[n] != in[n + period]) {
+                return false;
+            }
+        }
+        return true;
+    }
+
+    /** STATES are told as all u for which times u, and more, added, is in the SET; each is written out to be known. */
+    private boolean trace(Known set) {
+        List<BigInteger[]> met = new ArrayList<>();
+        Map<String, Integer> numbers = new HashMap<>();
+        set.goes = new ArrayList<>();
+        set.good = new ArrayList<>();
+        met.add(new BigInteger[] {BigInteger.ONE, BigInteger.ZERO});
+        numbers.put(written(set, met.get(0)), 0);
+        for (int i = 0; i < met.size(); i++) {
+            BigInteger times = met.get(i)[0];
+            BigInteger more = met.get(i)[1];
+            set.good.add(set.holds(more));
+            int[] row = new int[base];
+            for (int figure = 0; figure < base; figure++) {
+                BigInteger[] rest = {times.multiply(BigInteger.valueOf(base)),
+                    times.multiply(BigInteger.valueOf(figure)).add(more)};
+                String text = written(set, rest);
+                if (!numbers.containsKey(text)) {
+                    numbers.put(text, met.size());
+                    met.add(rest);
+                }
+                row[figure] = numbers.get(text);
+            }
+            set.goes.add(row);
+            if (met.size() > 64) {
+                return false;
+            }
+        }
+        return true;
+    }
+
+    private static String written(Known set, BigInteger[] state) {
+        StringBuilder text = new StringBuilder();
+        BigInteger n = state[1];
+        for (int u = 0; u <= set.start + set.period; u++) {
+            text.append(set.holds(n) ? '1' : '0');
+            n = n.add(state[0]);
+        }
+        return text.toString();
+    }
+
+    int base(int n) {
+        if (n != 2 && n != 3 && n != 5) {
+            return OUTSIDE;
+        }
+        int was = base;
+        base = n;
+        slots = new Known[6];
+        empty();
+        return was;
+    }
+
+    int put(int to, int kind, int a, int m) {
+        if (!slot(to)) {
+            return UNKNOWN;
+        }
+        if (!within(kind, 0, 4) || kind < 3 && !within(a, 0, 100) || kind == 2 && !within(m, 1, 60)) {
+            return OUTSIDE;
+        }
+        switch (kind) {
+            case 0: return hold(to, n -> n == a, 101, 1);
+            case 1: return hold(to, n -> n >= a, 101, 1);
+            case 2: return hold(to, n -> n % m == a % m, 0, m);
+            case 3: return hold(to, n -> false, 0, 1);
+            default: return hold(to, n -> true, 0, 1);
+        }
+    }
+
+    int join(int to, int one, int other, int way) {
+        if (!slot(to) || !slot(one) || !slot(other)) {
+            return UNKNOWN;
+        }
+        if (!within(way, 0, 3)) {
+            return OUTSIDE;
+        }
+        Known a = slots[one];
+        Known b = slots[other];
+        return hold(to, n -> {
+            boolean p = a.holds(n);
+            boolean q = b.holds(n);
+            return way == 0 ? p | q : way == 1 ? p & q : way == 2 ? p & !q : p ^ q;
+        }, 120, a.period * b.period);
+    }
+
+    int turn(int to, int from) {
+        if (!slot(to) || !slot(from)) {
+            return UNKNOWN;
+        }
+        Known a = slots[from];
+        return hold(to, n -> !a.holds(n), 120, a.period);
+    }
+
+    int shift(int to, int from, int c) {
+        if (!slot(to) || !slot(from)) {
+            return UNKNOWN;
+        }
+        if (!within(c, -100, 100)) {
+            return OUTSIDE;
+        }
+        Known a = slots[from];
+        return hold(to, n -> n >= c && a.holds(n - c), 220, a.period);
+    }
+
+    int stretch(int to, int from, int c, int d) {
+        if (!slot(to) || !slot(from)) {
+            return UNKNOWN;
+        }
+        if (!within(c, 1, 12) || !within(d, 0, 20)) {
+            return OUTSIDE;
+        }
+        Known a = slots[from];
+        return hold(to, n -> n >= d && (n - d) % c == 0 && a.holds((n - d) / c), 12 * 120 + 20, a.period * c);
+    }
+
+    int shrink(int to, int from, int c, int d) {
+        if (!slot(to) || !slot(from)) {
+            return UNKNOWN;
+        }
+        if (!within(c, 1, 12) || !within(d, 0, 20)) {
+            return OUTSIDE;
+        }
+        Known a = slots[from];
+        return hold(to, n -> a.holds((long) c * n + d), 120, a.period);
+    }
+
+    int told(int slot, int what) {
+        if (!slot(slot)) {
+            return UNKNOWN;
+        }
+        Known a = slots[slot];
+        int early = 0;
+        int late = 0;
+        for (int n = 0; n < a.start + a.period; n++) {
+            early += a.in[n] && n < a.start ? 1 : 0;
+            late += a.in[n] && n >= a.start ? 1 : 0;
+        }
+        int good = 0;
+        for (boolean one : a.good) {
+            good += one ? 1 : 0;
+        }
+        int[] all = {a.start, a.period, a.goes.size(), good, early, late};
+        return within(what, 0, 5) ? all[what] : OUTSIDE;
+    }
+
+    int state(int slot, int i, int what) {
+        if (!slot(slot) || !within(i, 0, slots[slot].goes.size() - 1)) {
+            return UNKNOWN;
+        }
+        if (!within(what, 0, 7)) {
+            return OUTSIDE;
+        }
+        Known a = slots[slot];
+        if (what < 5) {
+            return what < base ? a.goes.get(i)[what] : AMISS;
+        }
+        if (what == 5) {
+            return a.good.get(i) ? 1 : 0;
+        }
+        if (what == 6) {
+            return way(a, 0, n -> n == i);
+        }
+        return way(a, i, n -> a.good.get(n));
+    }
+
+    private static int way(Known a, int from, IntPredicate there) {
+        List<Integer> front = new ArrayList<>(List.of(from));
+        Set<Integer> been = new HashSet<>(front);
+        for (int steps = 0; !front.isEmpty(); steps++) {
+            List<Integer> then = new ArrayList<>();
+            for (int one : front) {
+                if (there.test(one)) {
+                    return steps;
+                }
+                for (int go : a.goes.get(one)) {
+                    if (been.add(go)) {
+                        then.add(go);
+                    }
+                }
+            }
+            front = then;
+        }
+        return NONE;
+    }
+
+    int walk(int slot, int number, int n) {
+        if (!slot(slot)) {
+            return UNKNOWN;
+        }
+        if (!within(n, 0, 40) || number < 0) {
+            return OUTSIDE;
+        }
+        String figures = "0".repeat(40) + Integer.toString(number, base);
+        int at = 0;
+        for (int k = 0; k < n; k++) {
+            at = slots[slot].goes.get(at)[figures.charAt(figures.length() - 1 - k) - '0'];
+        }
+        return at;
+    }
+
+    int has(int slot, int number) {
+        if (!slot(slot)) {
+            return UNKNOWN;
+        }
+        return within(number, 0, 1000000000) ? slots[slot].holds(number) ? 1 : 0 : OUTSIDE;
+    }
+
+    int next(int slot, int number) {
+        if (!slot(slot)) {
+            return UNKNOWN;
+        }
+        if (!within(number, 0, 1000000000)) {
+            return OUTSIDE;
+        }
+        for (int n = number; n < number + 500; n++) {
+            if (slots[slot].holds(n)) {
+                return n;
+            }
+        }
+        return NONE;
+    }
+
+    int below(int slot, int number) {
+        if (!slot(slot)) {
+            return UNKNOWN;
+        }
+        if (!within(number, 0, 1000000000)) {
+            return OUTSIDE;
+        }
+        // whole PERIODS are taken off until few NUMBERS are left, which are gone through
+        Known a = slots[slot];
+        int whole = Math.max(0, number - 400) / a.period;
+        int left = number - whole * a.period;
+        int found = whole * told(slot, 5);
+        for (int n = 0; n < left; n++) {
+            found += a.holds(n) ? 1 : 0;
+        }
+        return found;
+    }
+
+    int alike(int one, int other, int what) {
+        if (!slot(one) || !slot(other)) {
+            return UNKNOWN;
+        }
+        if (!within(what, 0, 4)) {
+            return OUTSIDE;
+        }
+        int apart = NONE;
+        int both = NONE;
+        boolean inside = true;
+        for (int n = 4000; n >= 0; n--) {
+            boolean p = slots[one].holds(n);
+            boolean q = slots[other].holds(n);
+            apart = p != q ? n : apart;
+            both = p && q ? n : both;
+            inside &= !p || q;
+        }
+        int[] all = {apart == NONE ? 1 : 0, inside ? 1 : 0, both == NONE ? 1 : 0, apart, both};
+        return all[what];
+    }
+
+    int image(int k) {
+        if (!within(k, 0, 1)) {
+            return OUTSIDE;
+        }
+        kept[k] = slots.clone();
+        keptBase[k] = base;
+        return 1;
+    }
+
+    int restore(int k) {
+        if (!within(k, 0, 1)) {
+            return OUTSIDE;
+        }
+        if (kept[k] == null) {
+            return AMISS;
+        }
+        slots = kept[k].clone();
+        base = keptBase[k];
+        return 1;
+    }
+
+    int count(int what) {
+        Set<String> unlike = new HashSet<>();
+        int some = 0;
+        int states = 0;
+        for (Known a : slots) {
+            StringBuilder text = new StringBuilder();
+            for (int n = 0; n < 4000; n++) {
+                text.append(a.holds(n) ? '1' : '0');
+            }
+            unlike.add(text.toString());
+            some += text.indexOf("1") >= 0 ? 1 : 0;
+            states += a.goes.size();
+        }
+        int images = (kept[0] == null ? 0 : 1) + (kept[1] == null ? 0 : 2);
+        int[] all = {some, unlike.size(), base, states, images};
+        return within(what, 0, 4) ? all[what] : OUTSIDE;
+    }
+}
