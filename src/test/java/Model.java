@@ -1,36 +1,12 @@
-import java.math.BigInteger;
 import java.util.ArrayList;
-import java.util.HashMap;
 import java.util.HashSet;
 import java.util.List;
-import java.util.Map;
 import java.util.Set;
 import java.util.function.IntPredicate;
 
 /** The document's words done as they stand, slowly: what NumberMachines is compared with. */
 final class Model {
     private static final int UNKNOWN = -1, OUTSIDE = -2, AMISS = -3, FULL = -4, NONE = -6;
-
-    /** A SET: its NUMBERS below START and PERIOD, added, and its machine as rows of where each STATE goes. */
-    private static final class Known {
-        int start;
-        int period;
-        boolean[] in;
-        List<int[]> goes;
-        List<Boolean> good;
-
-        boolean holds(long n) {
-            return in[(int) (n < in.length ? n : start + (n - start) % period)];
-        }
-
-        boolean holds(BigInteger n) {
-            BigInteger from = BigInteger.valueOf(start);
-            if (n.compareTo(BigInteger.valueOf(in.length)) < 0) {
-                return in[n.intValue()];
-            }
-            return in[start + n.subtract(from).mod(BigInteger.valueOf(period)).intValue()];
-        }
-    }
 
     private int base = 2;
     private Known[] slots = new Known[6];
@@ -55,82 +31,13 @@ final class Model {
         return n >= least && n <= most;
     }
 
-    /** A SET told by which NUMBERS are in it, a place from which on and a number by which it comes round. */
     private int hold(int to, IntPredicate so, int from, int by) {
-        boolean[] in = new boolean[from + 2 * by + 1];
-        for (int n = 0; n < in.length; n++) {
-            in[n] = so.test(n);
-        }
-        int period = 1;
-        while (!comesRound(in, from, period, by)) {
-            period++;
-        }
-        int start = from;
-        while (start > 0 && in[start - 1] == in[start - 1 + period]) {
-            start--;
-        }
-        if (period > 60 || start > 120) {
-            return FULL;
-        }
-        Known made = new Known();
-        made.start = start;
-        made.period = period;
-        made.in = java.util.Arrays.copyOf(in, start + period);
-        if (!trace(made)) {
+        Known made = Known.of(so, from, by);
+        if (made.period > 60 || made.start > 120 || !made.trace(base, 64)) {
             return FULL;
         }
         slots[to] = made;
         return made.goes.size();
-    }
-
-    private static boolean comesRound(boolean[] in, int from, int period, int by) {
-        for (int n = from; n < from + by; n++) {
-            if (in[n] != in[n + period]) {
-                return false;
-            }
-        }
-        return true;
-    }
-
-    /** STATES are told as all u for which times u, and more, added, is in the SET; each is written out to be known. */
-    private boolean trace(Known set) {
-        List<BigInteger[]> met = new ArrayList<>();
-        Map<String, Integer> numbers = new HashMap<>();
-        set.goes = new ArrayList<>();
-        set.good = new ArrayList<>();
-        met.add(new BigInteger[] {BigInteger.ONE, BigInteger.ZERO});
-        numbers.put(written(set, met.get(0)), 0);
-        for (int i = 0; i < met.size(); i++) {
-            BigInteger times = met.get(i)[0];
-            BigInteger more = met.get(i)[1];
-            set.good.add(set.holds(more));
-            int[] row = new int[base];
-            for (int figure = 0; figure < base; figure++) {
-                BigInteger[] rest = {times.multiply(BigInteger.valueOf(base)),
-                    times.multiply(BigInteger.valueOf(figure)).add(more)};
-                String text = written(set, rest);
-                if (!numbers.containsKey(text)) {
-                    numbers.put(text, met.size());
-                    met.add(rest);
-                }
-                row[figure] = numbers.get(text);
-            }
-            set.goes.add(row);
-            if (met.size() > 64) {
-                return false;
-            }
-        }
-        return true;
-    }
-
-    private static String written(Known set, BigInteger[] state) {
-        StringBuilder text = new StringBuilder();
-        BigInteger n = state[1];
-        for (int u = 0; u <= set.start + set.period; u++) {
-            text.append(set.holds(n) ? '1' : '0');
-            n = n.add(state[0]);
-        }
-        return text.toString();
     }
 
     int base(int n) {
