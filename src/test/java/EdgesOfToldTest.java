@@ -25,6 +25,7 @@ public final class EdgesOfToldTest {
         promise10Good();
         promise10StepsFromState0();
         promise10StepsToAGoodOne();
+        promise10StepsAmongMany();
         promise10FirstAnswerThatFits();
         promise11Slot();
         promise11FiguresRead();
@@ -200,6 +201,24 @@ public final class EdgesOfToldTest {
         run(sentence).then("put", 0, 1, 1, 0).is(1, "state", 0, 0, 7).is(0, "state", 0, 1, 7);
         Run run = run(sentence).then("put", 0, 0, 100, 0).is(9, "shift", 0, 0, 19);
         run.is(7, "state", 0, 0, 7).is(NONE, "state", 0, 1, 7).is(6, "state", 0, 2, 7).is(0, "state", 0, 8, 7);
+    }
+
+    private static void promise10StepsAmongMany() {
+        steps(2, 53, 78);
+        steps(3, 56, 82);
+        steps(5, 58, 84);
+    }
+
+    /** The last by m, moved by c, has 64 STATES: ways from the first to each, and from each to a GOOD one. */
+    private static void steps(int base, int m, int c) {
+        Known set = Known.of(n -> n >= c && (n - c) % m == m - 1, 400, m);
+        due.is("promise 10: STATES are found", set.trace(base, 64) ? 1 : 0, 1);
+        Run run = run("promise 10: steps (6, 7), where there are 64 STATES").then("base", base);
+        run.then("put", 0, 2, m - 1, m).is(64, "shift", 0, 0, c);
+        for (int i = 0; i < 64; i++) {
+            int state = i;
+            run.is(set.steps(0, n -> n == state), "state", 0, i, 6).is(set.steps(i, set.good::get), "state", 0, i, 7);
+        }
     }
 
     private static void promise10FirstAnswerThatFits() {

@@ -2,8 +2,10 @@ import java.math.BigInteger;
 import java.util.ArrayList;
 import java.util.Arrays;
 import java.util.HashMap;
+import java.util.HashSet;
 import java.util.List;
 import java.util.Map;
+import java.util.Set;
 import java.util.function.IntPredicate;
 
 /** A SET written out, LARGE or not: its START and PERIOD, its NUMBERS below both, added, and its machine. */
@@ -89,6 +91,27 @@ final class Known {
             }
         }
         return true;
+    }
+
+    /** The least number of steps from a STATE to one of which it is so; NONE: there is no way. */
+    int steps(int from, IntPredicate there) {
+        List<Integer> front = new ArrayList<>(List.of(from));
+        Set<Integer> been = new HashSet<>(front);
+        for (int steps = 0; !front.isEmpty(); steps++) {
+            List<Integer> then = new ArrayList<>();
+            for (int one : front) {
+                if (there.test(one)) {
+                    return steps;
+                }
+                for (int go : goes.get(one)) {
+                    if (been.add(go)) {
+                        then.add(go);
+                    }
+                }
+            }
+            front = then;
+        }
+        return NumberMachines.NONE;
     }
 
     private String written(BigInteger[] state) {

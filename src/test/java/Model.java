@@ -1,6 +1,4 @@
-import java.util.ArrayList;
 import java.util.HashSet;
-import java.util.List;
 import java.util.Set;
 import java.util.function.IntPredicate;
 
@@ -158,29 +156,9 @@ final class Model {
             return a.good.get(i) ? 1 : 0;
         }
         if (what == 6) {
-            return way(a, 0, n -> n == i);
+            return a.steps(0, n -> n == i);
         }
-        return way(a, i, n -> a.good.get(n));
-    }
-
-    private static int way(Known a, int from, IntPredicate there) {
-        List<Integer> front = new ArrayList<>(List.of(from));
-        Set<Integer> been = new HashSet<>(front);
-        for (int steps = 0; !front.isEmpty(); steps++) {
-            List<Integer> then = new ArrayList<>();
-            for (int one : front) {
-                if (there.test(one)) {
-                    return steps;
-                }
-                for (int go : a.goes.get(one)) {
-                    if (been.add(go)) {
-                        then.add(go);
-                    }
-                }
-            }
-            front = then;
-        }
-        return NONE;
+        return a.steps(i, n -> a.good.get(n));
     }
 
     int walk(int slot, int number, int n) {
