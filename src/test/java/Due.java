@@ -16,7 +16,7 @@ final class Due {
     }
 
     /** The SLOT holds just the NUMBERS of which it is so: small ones are all asked for, and some of the largest. */
-    void holds(NumberMachines x, int slot, String what, LongPredicate so) {
+    void holds(Renewed x, int slot, String what, LongPredicate so) {
         for (int n = 0; n <= 700; n++) {
             is(what + ": has(" + slot + ", " + n + ")", x.has(slot, n), so.test(n) ? 1 : 0);
         }

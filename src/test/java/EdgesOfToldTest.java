@@ -1,3 +1,6 @@
+import java.util.Set;
+import java.util.TreeSet;
+
 /** The edges that promises 9 to 15 name: a test for each sentence. */
 public final class EdgesOfToldTest {
     private static final int UNKNOWN = NumberMachines.UNKNOWN, OUTSIDE = NumberMachines.OUTSIDE;
@@ -26,6 +29,7 @@ public final class EdgesOfToldTest {
         promise10StepsFromState0();
         promise10StepsToAGoodOne();
         promise10StepsAmongMany();
+        promise10NoWayFromTheLastOf64();
         promise10FirstAnswerThatFits();
         promise11Slot();
         promise11FiguresRead();
@@ -215,10 +219,30 @@ public final class EdgesOfToldTest {
         due.is("promise 10: STATES are found", set.trace(base, 64) ? 1 : 0, 1);
         Run run = run("promise 10: steps (6, 7), where there are 64 STATES").then("base", base);
         run.then("put", 0, 2, m - 1, m).is(64, "shift", 0, 0, c);
+        stepsOfAll(run, set);
+    }
+
+    private static void stepsOfAll(Run run, Known set) {
         for (int i = 0; i < 64; i++) {
             int state = i;
             run.is(set.steps(0, n -> n == state), "state", 0, i, 6).is(set.steps(i, set.good::get), "state", 0, i, 7);
         }
+    }
+
+    /** 0 by 6, but for some NUMBERS: of its 64 STATES the one that is met last is that of no NUMBER. */
+    private static void promise10NoWayFromTheLastOf64() {
+        Set<Integer> turned = Set.of(11, 13, 18, 23, 26, 27, 28, 29, 33, 42, 45, 46, 50, 53, 63, 67, 68, 69, 70, 71, 72,
+            73, 74, 75, 78, 81, 82, 83, 88, 89, 90, 92, 95, 96, 97, 98, 99, 102, 111);
+        Known set = Known.of(n -> (n % 6 == 0) != turned.contains(n), 112, 6);
+        due.is("promise 10: STATES are found", set.trace(2, 64) ? 1 : 0, 1);
+        Run run = run("promise 10: NONE (7): no way from the last of 64 STATES").then("put", 0, 2, 0, 6);
+        // by rising NUMBERS there are never more than 64 STATES on the way
+        for (int n : new TreeSet<>(turned)) {
+            run.then("put", 1, 0, n - 11, 0).then("shift", 1, 1, 11).then("join", 0, 0, 1, 3);
+        }
+        run.tells(0, 112, 6, 64).is(63, "state", 0, 63, 0).is(63, "state", 0, 63, 1).is(0, "state", 0, 63, 5);
+        run.is(6, "state", 0, 63, 6).is(NONE, "state", 0, 63, 7);
+        stepsOfAll(run, set);
     }
 
     private static void promise10FirstAnswerThatFits() {

@@ -11,7 +11,7 @@ public final class ImagesTest {
     }
 
     private static void promise16Image() {
-        NumberMachines x = new NumberMachines();
+        Renewed x = new Renewed();
         for (int k : NO_IMAGE) {
             due.is("image(" + k + ")", x.image(k), NumberMachines.OUTSIDE);
         }
@@ -32,7 +32,7 @@ public final class ImagesTest {
     }
 
     private static void promise17Restore() {
-        NumberMachines x = new NumberMachines();
+        Renewed x = new Renewed();
         for (int k : NO_IMAGE) {
             due.is("restore(" + k + ")", x.restore(k), NumberMachines.OUTSIDE);
         }
@@ -68,14 +68,14 @@ public final class ImagesTest {
         }
     }
 
-    private static void counts(NumberMachines x, String when, int... want) {
+    private static void counts(Renewed x, String when, int... want) {
         for (int what = 0; what < want.length; what++) {
             due.is(when + ": count(" + what + ")", x.count(what), want[what]);
         }
     }
 
     private static void promise18Count() {
-        NumberMachines x = new NumberMachines();
+        Renewed x = new Renewed();
         counts(x, "new", 0, 1, 2, 6, 0);
         x.put(0, 0, 5, 0);
         counts(x, "5 alone", 1, 2, 2, 10, 0);

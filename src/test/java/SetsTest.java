@@ -24,7 +24,7 @@ public final class SetsTest {
     }
 
     private static void promise1NewObject() {
-        NumberMachines x = new NumberMachines();
+        Renewed x = new Renewed();
         for (int slot = 0; slot < 6; slot++) {
             due.is("new: told(" + slot + ", 0)", x.told(slot, 0), 0);
             due.is("new: told(" + slot + ", 1)", x.told(slot, 1), 1);
@@ -43,7 +43,7 @@ public final class SetsTest {
     }
 
     private static void promise2Base() {
-        NumberMachines x = new NumberMachines();
+        Renewed x = new Renewed();
         due.is("base(3)", x.base(3), 2);
         due.is("count(2)", x.count(2), 3);
         due.is("base(5)", x.base(5), 3);
@@ -68,7 +68,7 @@ public final class SetsTest {
 
     private static void promise3Put() {
         for (int base : BASES) {
-            NumberMachines x = new NumberMachines();
+            Renewed x = new Renewed();
             x.base(base);
             for (int a : new int[] {0, 1, 2, 31, 32, 63, 64, 99, 100}) {
                 int kept = a;
@@ -98,9 +98,9 @@ public final class SetsTest {
     /** By a number that shares nothing with BASE there are as many STATES as remainders. */
     private static void everyPutTellsItsStates() {
         for (int base : BASES) {
-            NumberMachines x = new NumberMachines();
-            x.base(base);
             for (int m = 1; m <= 60; m++) {
+                Renewed x = new Renewed();
+                x.base(base);
                 for (int a = 0; a <= 100; a += 9) {
                     int states = x.put(4, 2, a, m);
                     due.is("put tells what told tells", states, x.told(4, 2));
@@ -113,7 +113,7 @@ public final class SetsTest {
     }
 
     private static void promise3PutRefused() {
-        NumberMachines x = new NumberMachines();
+        Renewed x = new Renewed();
         for (int slot : NO_SLOT) {
             due.is("put(" + slot + ", 9, -1, -1)", x.put(slot, 9, -1, -1), NumberMachines.UNKNOWN);
             due.is("put(" + slot + ", 4, 0, 0)", x.put(slot, 4, 0, 0), NumberMachines.UNKNOWN);
@@ -139,7 +139,7 @@ public final class SetsTest {
 
     private static void promise4Join() {
         for (int base : BASES) {
-            NumberMachines x = new NumberMachines();
+            Renewed x = new Renewed();
             x.base(base);
             x.put(0, 2, 1, 4);
             x.put(1, 1, 37, 0);
@@ -166,7 +166,7 @@ public final class SetsTest {
     }
 
     private static void joinAtTheLimits() {
-        NumberMachines x = new NumberMachines();
+        Renewed x = new Renewed();
         x.put(0, 2, 0, 60);
         x.put(1, 2, 0, 59);
         for (int way = 0; way <= 3; way++) {
@@ -193,7 +193,7 @@ public final class SetsTest {
 
     /** What is made comes round sooner, or from earlier on, than what it is made of: it is not LARGE. */
     private static void joinThatComesRoundSooner() {
-        NumberMachines x = new NumberMachines();
+        Renewed x = new Renewed();
         int even = x.put(0, 2, 0, 60);
         x.put(1, 2, 1, 58);
         due.is("even ones less odd ones", x.join(2, 0, 1, 2), even);
@@ -210,7 +210,7 @@ public final class SetsTest {
     }
 
     private static void promise4JoinRefused() {
-        NumberMachines x = new NumberMachines();
+        Renewed x = new Renewed();
         for (int slot : NO_SLOT) {
             due.is("join to " + slot, x.join(slot, 0, 0, 9), NumberMachines.UNKNOWN);
             due.is("join of " + slot, x.join(0, slot, 0, 9), NumberMachines.UNKNOWN);
@@ -224,7 +224,7 @@ public final class SetsTest {
 
     private static void promise5Turn() {
         for (int base : BASES) {
-            NumberMachines x = new NumberMachines();
+            Renewed x = new Renewed();
             x.base(base);
             x.put(0, 0, 17, 0);
             int states = x.told(0, 2);
@@ -239,7 +239,7 @@ public final class SetsTest {
             x.turn(4, 4);
             due.holds(x, 4, "turn by 10", n -> n % 10 != 3);
         }
-        NumberMachines x = new NumberMachines();
+        Renewed x = new Renewed();
         for (int slot : NO_SLOT) {
             due.is("turn(" + slot + ", 0)", x.turn(slot, 0), NumberMachines.UNKNOWN);
             due.is("turn(0, " + slot + ")", x.turn(0, slot), NumberMachines.UNKNOWN);
@@ -249,7 +249,7 @@ public final class SetsTest {
 
     private static void promise6Shift() {
         for (int base : BASES) {
-            NumberMachines x = new NumberMachines();
+            Renewed x = new Renewed();
             x.base(base);
             x.put(0, 2, 5, 9);
             x.put(1, 0, 15, 0);
@@ -282,7 +282,7 @@ public final class SetsTest {
     }
 
     private static void promise6ShiftRefused() {
-        NumberMachines x = new NumberMachines();
+        Renewed x = new Renewed();
         for (int slot : NO_SLOT) {
             due.is("shift(" + slot + ", 0, 101)", x.shift(slot, 0, 101), NumberMachines.UNKNOWN);
             due.is("shift(0, " + slot + ", 101)", x.shift(0, slot, 101), NumberMachines.UNKNOWN);
@@ -294,7 +294,7 @@ public final class SetsTest {
 
     private static void promise7Stretch() {
         for (int base : BASES) {
-            NumberMachines x = new NumberMachines();
+            Renewed x = new Renewed();
             x.base(base);
             x.put(0, 2, 1, 3);
             x.put(1, 0, 2, 0);
@@ -327,7 +327,7 @@ public final class SetsTest {
     }
 
     private static void promise7StretchRefused() {
-        NumberMachines x = new NumberMachines();
+        Renewed x = new Renewed();
         for (int slot : NO_SLOT) {
             due.is("stretch(" + slot + ", 0, 0, 0)", x.stretch(slot, 0, 0, 0), NumberMachines.UNKNOWN);
             due.is("stretch(0, " + slot + ", 0, 0)", x.stretch(0, slot, 0, 0), NumberMachines.UNKNOWN);
@@ -342,7 +342,7 @@ public final class SetsTest {
 
     private static void promise8Shrink() {
         for (int base : BASES) {
-            NumberMachines x = new NumberMachines();
+            Renewed x = new Renewed();
             x.base(base);
             x.put(0, 2, 4, 14);
             x.put(1, 0, 33, 0);
@@ -367,7 +367,7 @@ public final class SetsTest {
     }
 
     private static void promise8ShrinkRefused() {
-        NumberMachines x = new NumberMachines();
+        Renewed x = new Renewed();
         for (int slot : NO_SLOT) {
             due.is("shrink(" + slot + ", 0, 0, 0)", x.shrink(slot, 0, 0, 0), NumberMachines.UNKNOWN);
             due.is("shrink(0, " + slot + ", 0, 0)", x.shrink(0, slot, 0, 0), NumberMachines.UNKNOWN);
@@ -382,7 +382,7 @@ public final class SetsTest {
 
     /** 0 by 59 has 59 STATES in BASE 2; joined with NUMBERS alone it has more, up to 64 and not beyond. */
     private static void largeByStates() {
-        NumberMachines x = new NumberMachines();
+        Renewed x = new Renewed();
         x.put(0, 2, 0, 59);
         int states = 59;
         boolean full = false;
@@ -409,7 +409,7 @@ public final class SetsTest {
     }
 
     private static void refusedChangesNothing() {
-        NumberMachines x = new NumberMachines();
+        Renewed x = new Renewed();
         x.put(0, 2, 0, 59);
         x.put(1, 2, 0, 60);
         x.put(2, 1, 100, 0);

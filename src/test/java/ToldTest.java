@@ -19,14 +19,14 @@ public final class ToldTest {
         due.end();
     }
 
-    private static void tells(NumberMachines x, int slot, String of, int... want) {
+    private static void tells(Renewed x, int slot, String of, int... want) {
         for (int what = 0; what < want.length; what++) {
             due.is(of + ": told(" + slot + ", " + what + ")", x.told(slot, what), want[what]);
         }
     }
 
     private static void promise9Told() {
-        NumberMachines x = new NumberMachines();
+        Renewed x = new Renewed();
         tells(x, 0, "none", 0, 1, 1, 0, 0, 0);
         x.put(0, 4, 0, 0);
         tells(x, 0, "all", 0, 1, 1, 1, 0, 1);
@@ -64,7 +64,7 @@ public final class ToldTest {
     }
 
     private static void promise9ToldRefused() {
-        NumberMachines x = new NumberMachines();
+        Renewed x = new Renewed();
         for (int slot : NO_SLOT) {
             due.is("told(" + slot + ", 0)", x.told(slot, 0), NumberMachines.UNKNOWN);
             due.is("told(" + slot + ", 9)", x.told(slot, 9), NumberMachines.UNKNOWN);
@@ -74,7 +74,7 @@ public final class ToldTest {
         }
     }
 
-    private static void states(NumberMachines x, int slot, String of, int[][] want) {
+    private static void states(Renewed x, int slot, String of, int[][] want) {
         due.is(of + ": STATES", x.told(slot, 2), want.length);
         for (int i = 0; i < want.length; i++) {
             for (int what = 0; what < 8; what++) {
@@ -84,7 +84,7 @@ public final class ToldTest {
     }
 
     private static void promise10State() {
-        NumberMachines x = new NumberMachines();
+        Renewed x = new Renewed();
         int no = NumberMachines.AMISS;
         int none = NumberMachines.NONE;
         states(x, 0, "none", new int[][] {{0, 0, no, no, no, 0, 0, none}});
@@ -114,7 +114,7 @@ public final class ToldTest {
     }
 
     private static void promise10StateOfOtherBases() {
-        NumberMachines x = new NumberMachines();
+        Renewed x = new Renewed();
         int no = NumberMachines.AMISS;
         int none = NumberMachines.NONE;
         x.base(3);
@@ -139,7 +139,7 @@ public final class ToldTest {
     }
 
     private static void promise10StateRefused() {
-        NumberMachines x = new NumberMachines();
+        Renewed x = new Renewed();
         x.put(0, 2, 0, 3);
         for (int slot : NO_SLOT) {
             due.is("state(" + slot + ", 0, 9)", x.state(slot, 0, 9), NumberMachines.UNKNOWN);
@@ -161,7 +161,7 @@ public final class ToldTest {
     }
 
     private static void promise11Walk() {
-        NumberMachines x = new NumberMachines();
+        Renewed x = new Renewed();
         x.put(0, 0, 5, 0);
         int[] by5 = {0, 2, 3, 4, 4};
         for (int n = 0; n < by5.length; n++) {
@@ -191,7 +191,7 @@ public final class ToldTest {
     /** A machine that has read all FIGURES stands where it is GOOD, if the NUMBER is in the SET, and only then. */
     private static void walkGoesByFigures() {
         for (int base : new int[] {2, 3, 5}) {
-            NumberMachines x = new NumberMachines();
+            Renewed x = new Renewed();
             x.base(base);
             x.put(0, 2, 4, 12);
             x.put(1, 0, 77, 0);
@@ -210,7 +210,7 @@ public final class ToldTest {
     }
 
     private static void promise12Has() {
-        NumberMachines x = new NumberMachines();
+        Renewed x = new Renewed();
         x.put(0, 2, 10, 60);
         x.put(1, 0, 0, 0);
         x.join(0, 0, 1, 0);
@@ -226,7 +226,7 @@ public final class ToldTest {
     }
 
     private static void promise13Next() {
-        NumberMachines x = new NumberMachines();
+        Renewed x = new Renewed();
         due.is("next of none", x.next(0, 0), NumberMachines.NONE);
         due.is("next of none", x.next(0, 1000000000), NumberMachines.NONE);
         x.put(0, 2, 59, 60);
@@ -252,7 +252,7 @@ public final class ToldTest {
     }
 
     private static void promise14Below() {
-        NumberMachines x = new NumberMachines();
+        Renewed x = new Renewed();
         due.is("below of none", x.below(0, 1000000000), 0);
         x.put(0, 2, 3, 7);
         x.put(1, 0, 20, 0);
@@ -282,7 +282,7 @@ public final class ToldTest {
         }
     }
 
-    private static void alike(NumberMachines x, int one, int other, int... want) {
+    private static void alike(Renewed x, int one, int other, int... want) {
         for (int what = 0; what < want.length; what++) {
             due.is("alike(" + one + ", " + other + ", " + what + ")", x.alike(one, other, what), want[what]);
         }
@@ -290,7 +290,7 @@ public final class ToldTest {
 
     private static void promise15Alike() {
         int none = NumberMachines.NONE;
-        NumberMachines x = new NumberMachines();
+        Renewed x = new Renewed();
         alike(x, 0, 1, 1, 1, 1, none, none);
         alike(x, 2, 2, 1, 1, 1, none, none);
         x.put(0, 2, 0, 6);
@@ -323,7 +323,7 @@ public final class ToldTest {
     }
 
     private static void promise15AlikeRefused() {
-        NumberMachines x = new NumberMachines();
+        Renewed x = new Renewed();
         for (int slot : NO_SLOT) {
             due.is("alike(" + slot + ", 0, 9)", x.alike(slot, 0, 9), NumberMachines.UNKNOWN);
             due.is("alike(0, " + slot + ", 9)", x.alike(0, slot, 9), NumberMachines.UNKNOWN);
